@@ -825,11 +825,20 @@ public final class OddPayments {
         }
     }
 
+    /** The text that was fed, and its tokens; what is no token is kept as one, since it is faulty only where it is reached. */
     private static final class Tape {
-        static final int LENGTH = 600, AT_ONCE = 8, END = -1;
+        static final int LENGTH = 600, AT_ONCE = 8;
+        static final int NO_TOKEN = 0, WORD = 1, NUMBER = 2, SIGN = 3, END = 4;
+        static final int RULE = 4, IF = 5, AND = 6, FIRST_FEATURE = 7, LAST_FEATURE = 16, NO_WORD = 17;
+        private static final String WORDS = "window decay  look   block  rule   if     and    amount sort   hour   count  sum    payees seen   ratio  far    into   ";
+        private static final int LONGEST = 6, STRIDE = 7, LINE_END = 10;
 
-        private final byte[] bytes = new byte[LENGTH];
+        final int[] tokens = new int[LENGTH + 1];
+        final int[] values = new int[LENGTH + 1];
+        final int[] places = new int[LENGTH + 1];
         int size = 0;
+        private final byte[] bytes = new byte[LENGTH];
+        private int many = 0;
 
         void add(long w, int n) {
             for (int k = n - 1; k >= 0 && size < LENGTH; k--) {
@@ -838,40 +847,110 @@ public final class OddPayments {
             }
         }
 
-        /** Bytes above 127 stay above it, so that none of them is taken for the end. */
-        int at(int i) {
-            return within(i, 0, size - 1) ? bytes[i] & 255 : END;
+        void split() {
+            many = 0;
+            for (int i = 0; i < size; i = Math.max(i + 1, endOf(i))) {
+                if (bytes[i] != ' ' && bytes[i] != LINE_END) {
+                    takeToken(i, endOf(i));
+                }
+            }
+            keep(END, 0, size);
+        }
+
+        private int endOf(int i) {
+            int end = i;
+            while (end < size && isLetter(bytes[i]) && isLetter(bytes[end])) {
+                end++;
+            }
+            while (end < size && isFigure(bytes[i]) && isFigure(bytes[end])) {
+                end++;
+            }
+            return Math.max(i + 1, end);
+        }
+
+        private void takeToken(int i, int end) {
+            byte c = bytes[i];
+            if (end - i > LONGEST) {
+                keep(NO_TOKEN, 0, i);
+            } else if (isLetter(c)) {
+                keep(WORD, wordAt(i, end), i);
+            } else if (isFigure(c)) {
+                keep(NUMBER, numberAt(i, end), i);
+            } else {
+                keep(c == ';' || c == '<' || c == '>' || c == '=' ? SIGN : NO_TOKEN, c, i);
+            }
+        }
+
+        private void keep(int token, int value, int place) {
+            if (many <= LENGTH) {
+                tokens[many] = token;
+                values[many] = value;
+                places[many] = place;
+                many++;
+            }
+        }
+
+        private int wordAt(int i, int end) {
+            for (int k = 0; k < NO_WORD; k++) {
+                if (isSpelt(k * STRIDE, i, end - i)) {
+                    return k;
+                }
+            }
+            return NO_WORD;
+        }
+
+        private boolean isSpelt(int at, int i, int length) {
+            if (at + length >= WORDS.length() || WORDS.charAt(at + length) != ' ') {
+                return false;
+            }
+            for (int k = 0; k < length && i + k < size; k++) {
+                if (WORDS.charAt(at + k) != bytes[i + k]) {
+                    return false;
+                }
+            }
+            return true;
+        }
+
+        private int numberAt(int i, int end) {
+            int value = 0;
+            for (int k = i; k < end && k < size; k++) {
+                value = value * 10 + bytes[k] - '0';
+            }
+            return value;
+        }
+
+        private static boolean isLetter(int c) {
+            return c >= 'a' && c <= 'z';
+        }
+
+        private static boolean isFigure(int c) {
+            return c >= '0' && c <= '9';
         }
     }
 
-    /** Reads the tape into a book, token by token, up to the first fault. */
+    /** Reads the tape's tokens into a book, up to the first fault. */
     private static final class Reader {
-        private static final int NO_TOKEN = 0, WORD = 1, NUMBER = 2, SIGN = 3, END = 4;
-        private static final int LONGEST = 6, STRIDE = 7, LINE_END = 10;
-        private static final int MOST_WEIGHT = 1000, MOST_NUMBER = 999999;
-        private static final String WORDS = "window decay  look   block  rule   if     and    amount sort   hour   count  sum    payees seen   ratio  far    into   ";
-        private static final int RULE = 4, IF = 5, AND = 6, FIRST_FEATURE = 7, LAST_FEATURE = 16;
         private static final int MISPLACED = 1, MISNUMBERED = 2, TOO_MANY = 3;
+        private static final int MOST_WEIGHT = 1000, MOST_NUMBER = 999999;
 
         int wrong = 0;
         int wrongPlace = 0;
         private final Tape tape;
         private RuleBook book = null;
-        private int token = END;
+        private int at = 0;
+        private int token = Tape.END;
         private int value = 0;
-        private int place = 0;
-        private int next = 0;
 
         Reader(Tape tape) {
             this.tape = tape;
         }
 
-        boolean read(RuleBook empty) {
-            book = empty;
+        boolean read(RuleBook blank) {
+            tape.split();
+            book = blank;
             book.clear();
-            next = 0;
-            advance();
-            for (int i = 0; i < Tape.LENGTH && token != END; i++) {
+            goTo(0);
+            for (int i = 0; i < Tape.LENGTH && token != Tape.END; i++) {
                 if (!readStatement()) {
                     return false;
                 }
@@ -879,163 +958,106 @@ public final class OddPayments {
             return true;
         }
 
+        /** The end is the last token, and none goes beyond it. */
+        private void goTo(int i) {
+            if (i >= 0 && i <= Tape.LENGTH) {
+                at = i;
+                token = tape.tokens[i];
+                value = tape.values[i];
+            }
+        }
+
+        private void goOn() {
+            if (token != Tape.END) {
+                goTo(at + 1);
+            }
+        }
+
         private boolean readStatement() {
-            if (token == WORD && value >= RuleBook.WINDOW && value <= RuleBook.BLOCK) {
+            if (token == Tape.WORD && within(value, RuleBook.WINDOW, RuleBook.BLOCK)) {
                 return readLimit(value);
             }
-            return isWord(RULE) ? readRule() : fail(MISPLACED);
+            return isWord(Tape.RULE) ? readRule() : fail(MISPLACED);
         }
 
         private boolean readLimit(int limit) {
             boolean isTime = limit == RuleBook.WINDOW || limit == RuleBook.DECAY;
-            advance();
+            goOn();
             if (!hasNumber(isTime ? 1 : 0, isTime ? LAST_TIME : MOST_SETTING)) {
                 return false;
             }
             book.limits[limit] = value;
-            advance();
-            return passSign(';');
+            goOn();
+            return passEnd();
         }
 
         private boolean readRule() {
             if (book.size >= RuleBook.RULES) {
                 return fail(TOO_MANY);
             }
-            advance();
+            goOn();
             if (!hasNumber(1, MOST_WEIGHT)) {
                 return false;
             }
             book.addRule(value);
-            advance();
-            if (!isWord(IF)) {
+            goOn();
+            if (!isWord(Tape.IF)) {
                 return fail(MISPLACED);
             }
             for (int tests = 0; tests < RuleBook.TESTS; tests++) {
-                advance();
+                goOn();
                 if (!readTest()) {
                     return false;
                 }
-                if (!isWord(AND)) {
-                    return passSign(';');
+                if (!isWord(Tape.AND)) {
+                    return passEnd();
                 }
             }
             return fail(TOO_MANY);
         }
 
         private boolean readTest() {
-            if (token != WORD || !within(value, FIRST_FEATURE, LAST_FEATURE)) {
+            if (token != Tape.WORD || !within(value, Tape.FIRST_FEATURE, Tape.LAST_FEATURE)) {
                 return fail(MISPLACED);
             }
-            int feature = value - FIRST_FEATURE;
-            advance();
-            if (token != SIGN || value == ';') {
+            int feature = value - Tape.FIRST_FEATURE;
+            goOn();
+            if (token != Tape.SIGN || value == ';') {
                 return fail(MISPLACED);
             }
             int sign = value;
-            advance();
+            goOn();
             if (!hasNumber(0, MOST_NUMBER)) {
                 return false;
             }
             book.addTest(feature, sign, value);
-            advance();
+            goOn();
             return true;
         }
 
         private boolean isWord(int word) {
-            return token == WORD && value == word;
+            return token == Tape.WORD && value == word;
         }
 
         private boolean hasNumber(int least, int most) {
-            if (token != NUMBER) {
+            if (token != Tape.NUMBER) {
                 return fail(MISPLACED);
             }
             return within(value, least, most) || fail(MISNUMBERED);
         }
 
-        private boolean passSign(int sign) {
-            if (token != SIGN || value != sign) {
+        private boolean passEnd() {
+            if (token != Tape.SIGN || value != ';') {
                 return fail(MISPLACED);
             }
-            advance();
+            goOn();
             return true;
         }
 
         private boolean fail(int number) {
             wrong = number;
-            wrongPlace = place;
+            wrongPlace = tape.places[at];
             return false;
-        }
-
-        private void advance() {
-            while (next < tape.size && isGap(tape.at(next))) {
-                next++;
-            }
-            place = next;
-            int c = tape.at(next);
-            if (c == Tape.END) {
-                token = END;
-            } else if (isLetter(c)) {
-                takeWord();
-            } else if (isFigure(c)) {
-                takeNumber();
-            } else {
-                token = c == ';' || c == '<' || c == '>' || c == '=' ? SIGN : NO_TOKEN;
-                value = c;
-                next++;
-            }
-        }
-
-        private void takeWord() {
-            while (next < tape.size && isLetter(tape.at(next))) {
-                next++;
-            }
-            token = next - place > LONGEST ? NO_TOKEN : WORD;
-            value = token == WORD ? wordRead() : 0;
-        }
-
-        private void takeNumber() {
-            value = 0;
-            while (next < tape.size && isFigure(tape.at(next))) {
-                if (next - place < LONGEST) {
-                    value = value * 10 + tape.at(next) - '0';
-                }
-                next++;
-            }
-            token = next - place > LONGEST ? NO_TOKEN : NUMBER;
-        }
-
-        private int wordRead() {
-            for (int k = 0; k <= LAST_FEATURE; k++) {
-                if (isSpelt(k * STRIDE)) {
-                    return k;
-                }
-            }
-            return -1;
-        }
-
-        private boolean isSpelt(int at) {
-            int length = next - place;
-            if (at + length >= WORDS.length() || WORDS.charAt(at + length) != ' ') {
-                return false;
-            }
-            for (int i = 0; i < length; i++) {
-                if (WORDS.charAt(at + i) != tape.at(place + i)) {
-                    return false;
-                }
-            }
-            return true;
-        }
-
-        private static boolean isGap(int c) {
-            return c == ' ' || c == LINE_END;
-        }
-
-        private static boolean isLetter(int c) {
-            return within(c, 'a', 'z');
-        }
-
-        private static boolean isFigure(int c) {
-            return within(c, '0', '9');
         }
     }
 
