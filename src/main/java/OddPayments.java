@@ -656,11 +656,11 @@ public final class OddPayments {
             latest = q.time;
         }
 
-        /** A time below none (the first one's, since latest starts at the payment's own) fades nothing. */
+        /** The first one has none before it, but then there is nothing yet that could fade. */
         private int fade(int value, int time) {
             int left = value;
-            int times = decay > 0 ? Math.min(MOST_FADES, time / decay) : 0;
-            for (int i = 0; i < times; i++) {
+            int times = decay > 0 ? time / decay : 0;
+            for (int i = 0; i < times && i < MOST_FADES; i++) {
                 left -= left / 4;
             }
             return left;
@@ -830,6 +830,7 @@ public final class OddPayments {
         static final int LENGTH = 600, AT_ONCE = 8;
         static final int NO_TOKEN = 0, WORD = 1, NUMBER = 2, SIGN = 3, END = 4;
         static final int RULE = 4, IF = 5, AND = 6, FIRST_FEATURE = 7, LAST_FEATURE = 16, NO_WORD = 17;
+        // The first four words stand as a book's limits do, the last ten as the features of a row: their places serve as numbers.
         private static final String WORDS = "window decay  look   block  rule   if     and    amount sort   hour   count  sum    payees seen   ratio  far    into   ";
         private static final int LONGEST = 6, STRIDE = 7, LINE_END = 10;
 
