@@ -36,6 +36,9 @@ public final class PaymentsTest {
         due.is("BAD ahead of FULL", x.pay(500, 0, 0, 1, 1, 4), Due.BAD);
         due.is("count(1)", x.count(1), 120);
         due.is("none came", x.told(500, 0), Due.BAD);
+        due.row("first and last tags", new long[] {x.told(0, 0), x.told(999, 0), x.told(999, 1), x.told(999, 4)}, 0, 1, 100000, 100000);
+        due.promise(9, "order");
+        due.row("of all 120", new long[] {x.order(0), x.order(1), x.order(118), x.order(119), x.order(120), x.order(121)}, 0, 119, 2, 999, Due.NONE, Due.NONE);
     }
 
     private static void lay(OddPayments x, int sheet, int at, int... items) {
@@ -60,6 +63,7 @@ public final class PaymentsTest {
         x.sheet(2, 0, 6);
         lay(x, 2, 0, 100, 127, 1, 2, 100, 1);
         due.is("of bytes", x.batch(2, 0, 1), 1);
+        due.is("its last item", x.told(100, 5), 1);
         x.set(2, 0, 200);
         due.is("a byte below 0", x.batch(2, 0, 1), 0);
         for (int i = 200; i < 316; i++) {

@@ -82,6 +82,17 @@ public final class RulesTest {
         fails("look \n ", 7, 1);
         fails("look 5", 6, 1);
         fails("look 5 5;", 7, 1);
+        fails("look 5=", 6, 1);
+        fails("look 5 59;", 7, 1);
+        fails("book 1;", 0, 1);
+        fails("lookz 1;", 0, 1);
+        fails("alook 1;", 0, 1);
+        fails("nule 1 if sort=1;", 0, 1);
+        fails("rule 1 is sort=1;", 7, 1);
+        fails("rule 1 if gum=1;", 10, 1);
+        fails("rule 1 if sort=;", 15, 1);
+        fails("rule 1 if sort= and hour=1;", 16, 1);
+        fails("rule 1 if sort=1 and hour=1<", 27, 1);
         fails("look ; 5;", 5, 1);
         fails("look 1234567;", 5, 1);
         fails("look 0000001;", 5, 1);
@@ -123,6 +134,15 @@ public final class RulesTest {
         fails(b + "look 1;rule", 211, 3);
         fails(b + "look 20001;rule", 209, 2);
         fails("look 20001;rule 0 if", 5, 2);
+        fails("look 1;" + " ".repeat(587) + "look 2", 600, 1);
+        fails("look 1;" + " ".repeat(589) + "look", 600, 1);
+        fails(" ".repeat(599) + "x", 599, 1);
+        fails(";".repeat(600), 0, 1);
+        fails("z".repeat(600), 0, 1);
+        fails("9".repeat(600), 0, 1);
+        OddPayments x = new OddPayments();
+        due.is("600 bytes", Due.read(x, "look 1;" + "\n".repeat(586) + "look 2;"), 0);
+        due.is("rule(2)", x.rule(2), 2);
     }
 
     private static void fault() {

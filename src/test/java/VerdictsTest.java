@@ -8,6 +8,7 @@ public final class VerdictsTest {
         cost();
         setting();
         bestSetting();
+        manyScores();
         learnt();
         costs();
         due.end();
@@ -128,6 +129,36 @@ public final class VerdictsTest {
         due.row("of several the least l, then the least b", best(y), 0, 0, 40);
         y.cost(0, 41);
         due.row("looked at", best(y), 0, 8, 40);
+    }
+
+    /** Sort, amount and hour give 120 payments 120 scores: as many thresholds as there can be, tried one by one by the model. */
+    private static void manyScores() {
+        due.promise(24, "bestSetting: many scores");
+        OddPayments x = new OddPayments();
+        Model m = new Model();
+        String text = "rule 1 if sort=1;rule 2 if sort=2;rule 3 if sort=3;rule 4 if amount>1;rule 4 if amount>2;rule 4 if amount>3;rule 4 if amount>4;"
+                + "rule 20 if hour>0;rule 20 if hour>1;rule 20 if hour>2;rule 20 if hour>3;rule 20 if hour>4;";
+        due.is("rules", Due.read(x, text), 12);
+        for (char c : text.toCharArray()) {
+            m.feed(c, 1);
+        }
+        m.rules();
+        for (int i = 0; i < 120; i++) {
+            int tag = i * 7 % 120;
+            x.pay(tag, tag / 20, 0, 1, 1 + tag / 4 % 5, tag % 4);
+            m.pay(tag, tag / 20, 0, 1, 1 + tag / 4 % 5, tag % 4);
+            x.verdict(tag, tag * tag % 7 % 2);
+            m.verdict(tag, tag * tag % 7 % 2);
+            due.is("score", x.judged(tag, 0, 0), tag);
+        }
+        for (int[] costs : new int[][] {{50, 5}, {1, 1}, {2, 1}, {3, 2}, {7, 3}, {0, 0}, {0, 9}, {4, 0}}) {
+            x.cost(0, costs[0]);
+            x.cost(1, costs[1]);
+            m.cost(0, costs[0]);
+            m.cost(1, costs[1]);
+            due.row("costs " + costs[0] + ", " + costs[1], best(x), m.bestSetting(0), m.bestSetting(1), m.bestSetting(2));
+            due.row("learnt", new long[] {x.learnt(0), x.learnt(1), x.learnt(2), x.learnt(3)}, m.learnt(0), m.learnt(1), m.learnt(2), m.learnt(3));
+        }
     }
 
     private static void learnt() {
