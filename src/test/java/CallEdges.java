@@ -93,6 +93,6 @@ final class CallEdges {
             sum += x.pay(i % 1001, i, i % 21, i % 19, i, i % 5) + x.feed(i, i % 10) + x.mark(i % 21, i % 3) + x.sheet(i % 9, i % 4, i % 122 - 1) + x.batch(i % 8, i % 7, i % 3);
             sum += i % 97 == 0 ? x.rules() + x.learnt(i % 4) + x.bestSetting(i % 3) + x.queue(i % 5) + x.acts(3) : x.ask(i % 1000, i % 2) + x.trace(i % 17);
         }
-        e.is("an answer", sum == 0 ? x.status() : 1, 1);
+        e.is("answers", sum == Long.MIN_VALUE ? 0 : 1, 1);
     }
 }

@@ -153,7 +153,7 @@ final class FeatureEdges {
         e.is("p's alone: the other is out of the window", x.feature(900, PAYEES, 0), 1);
         x.pay(2, 91, 0, 1, 1, 0);
         e.is("one that is p's, too", x.feature(900, PAYEES, 0), 1);
-        x.pay(3, 91, 0, 0 + 19, 1, 0);
+        x.pay(3, 91, 0, 19, 1, 0);
         e.is("another", x.feature(900, PAYEES, 0), 2);
         x.pay(4, 92, 0, 19, 1, 0);
         e.is("the same again", x.feature(900, PAYEES, 0), 2);

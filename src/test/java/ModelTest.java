@@ -43,8 +43,10 @@ public final class ModelTest {
 
     private int time() { return near(0, times - 1); }
 
+    /** A step of several calls may go beyond the last one that the document speaks of: what those answer is free. */
     private void due(String call, long got, long want) {
         calls++;
+        if (calls > CALLS) return;
         if (story.length() < 200000) story.append(call).append(" -> ").append(got).append('\n');
         if (got != want && right) {
             right = false;

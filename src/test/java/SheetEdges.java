@@ -22,6 +22,7 @@ final class SheetEdges {
         copyOfNone();
         copyWithinASheet();
         copyToTheEnds();
+        copyOfThoseBelowZero();
         copyRefusedFirst();
         copyBeyondAnEnd();
         drop();
@@ -315,6 +316,20 @@ final class SheetEdges {
         e.is("all but one", x.copy(0, 0, 0, 1, 119), 119);
         x.set(0, 1, 7);
         reads("one place on", x, 0, 1, 7, 11, 2, 3, 14, 1);
+    }
+
+    private void copyOfThoseBelowZero() {
+        e.of(4, "as they were ahead");
+        for (int lane = 0; lane < 3; lane++) {
+            OddPayments x = new OddPayments();
+            x.sheet(0, lane, 6);
+            x.sheet(1, lane, 6);
+            Edges.lay(x, 0, 0, -1, 11, 2, 3, 14, 1);
+            x.copy(0, 0, 1, 0, 6);
+            e.is("a tag of -1 stays one", x.batch(1, 0, 1), 0);
+            x.set(1, 0, 7);
+            reads("the others", x, 1, 0, 7, 11, 2, 3, 14, 1);
+        }
     }
 
     private void copyRefusedFirst() {

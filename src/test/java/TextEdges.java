@@ -4,6 +4,10 @@ import java.util.List;
 final class TextEdges {
     private static final int NO_FAULT = 0;
     private static final String TWELVE = "rule 1 if sort=0;".repeat(12);
+    private static final List<String> STATEMENTS = List.of("window", "decay", "look", "block", "rule", "");
+    private static final List<String> FEATURES = List.of("amount", "sort", "hour", "count", "sum", "payees", "seen", "ratio", "far", "into");
+    private static final List<String> ALL = List.of("window", "decay", "look", "block", "rule", "if", "and", "amount", "sort", "hour", "count", "sum", "payees",
+            "seen", "ratio", "far", "into", "1", ";", "<", ">", "=", "x", "#", "1234567", "");
 
     private final Edges e;
 
@@ -344,11 +348,6 @@ final class TextEdges {
     }
 
     // ---- faults
-
-    private static final List<String> STATEMENTS = List.of("window", "decay", "look", "block", "rule", "");
-    private static final List<String> FEATURES = List.of("amount", "sort", "hour", "count", "sum", "payees", "seen", "ratio", "far", "into");
-    private static final List<String> ALL = List.of("window", "decay", "look", "block", "rule", "if", "and", "amount", "sort", "hour", "count", "sum", "payees",
-            "seen", "ratio", "far", "into", "1", ";", "<", ">", "=", "x", "#", "1234567", "");
 
     /** What may stand behind so many tokens of the text below. */
     private static List<String> allowedAt(int k) {
