@@ -1,6 +1,10 @@
 import java.nio.file.Files;
 import java.nio.file.Path;
 import java.util.List;
+import java.util.Map;
+import java.util.Set;
+import java.util.TreeMap;
+import java.util.TreeSet;
 import java.util.regex.Matcher;
 import java.util.regex.Pattern;
 
@@ -10,7 +14,7 @@ public final class LanguageTest {
             "->", "::", "\\bpackage\\b", "\\bprotected\\b", "Exact\\b", "\\bhashCode\\b", "\\btoString\\b", "\\bObject\\b", "\\bthread\\b", "\\bThread\\b",
             "\\bRandom\\b", "\\bnanoTime\\b", "\\bcurrentTimeMillis\\b", "\\bdouble\\b", "\\bfloat\\b", "\\bstatic \\{", "\\bvar\\b", "\\[\\]\\[\\]\\[\\]",
             "\" *\\+", "\\+ *\"");
-    private static final int LONGEST_METHOD = 60;
+    private static final int LONGEST_METHOD = 60, MOST_CALLS = 8;
     private static boolean right = true;
 
     private static void wrong(int line, String what) {
@@ -54,6 +58,55 @@ public final class LanguageTest {
         }
     }
 
+    /** Of each method's name those that its bodies call; methods of one name are taken as one, which can only add calls. */
+    private static Map<String, Set<String>> callsOf(String[] lines) {
+        Map<String, Set<String>> calls = new TreeMap<>();
+        String in = null;
+        String end = "";
+        for (String line : lines) {
+            Matcher head = Pattern.compile("( {4}(?: {4})?)(?:[\\w\\[\\]]+ )*(\\w+)\\([^;]*\\) \\{").matcher(line);
+            if (head.matches()) {
+                in = head.group(2);
+                end = head.group(1) + "}";
+                calls.putIfAbsent(in, new TreeSet<>());
+                continue;
+            }
+            if (line.equals(end)) {
+                in = null;
+            }
+            Matcher call = Pattern.compile("(\\w+)\\(").matcher(line);
+            while (in != null && call.find()) {
+                calls.get(in).add(call.group(1));
+            }
+        }
+        return calls;
+    }
+
+    private static int depth(Map<String, Set<String>> calls, String method, int open) {
+        int deepest = open;
+        for (String called : calls.getOrDefault(method, Set.of())) {
+            if (!called.equals(method) && calls.containsKey(called) && open < 40) {
+                deepest = Math.max(deepest, depth(calls, called, open + 1));
+            }
+        }
+        return deepest;
+    }
+
+    private static void depths(String[] lines) {
+        Map<String, Set<String>> calls = callsOf(lines);
+        int deepest = 0;
+        for (String method : calls.keySet()) {
+            int depth = depth(calls, method, 1);
+            deepest = Math.max(deepest, depth);
+            if (depth > MOST_CALLS) {
+                wrong(0, method + " calls " + depth + " deep");
+            }
+        }
+        if (deepest < 4) {
+            wrong(0, "calls only " + deepest + " deep: the methods were not understood");
+        }
+    }
+
     private static void signs(String text) {
         for (int i = 0; i < text.length(); i++) {
             if (text.charAt(i) > 126 || text.charAt(i) < 32 && text.charAt(i) != '\n') {
@@ -68,6 +121,7 @@ public final class LanguageTest {
         String[] lines = codeOf(text).split("\n", -1);
         words(lines);
         lengths(lines);
+        depths(lines);
         if (!right) {
             System.exit(1);
         }
